@@ -205,6 +205,7 @@ public final class DecksTest {
         Check.due("about(3, 4)", 3, x.about(3, 4));
         Check.due("about(4, 0)", 0, x.about(4, 0));
         Check.due("about(4, 1)", 1, x.about(4, 1));
+        Check.due("about(4, 2), a set", NONE, x.about(4, 2));
         Check.due("about(4, 3)", 1, x.about(4, 3));
         Check.due("about(4, 4)", 3, x.about(4, 4));
         Check.due("about(2, 1)", 0, x.about(2, 1));
@@ -213,6 +214,11 @@ public final class DecksTest {
         Check.refused("about(4, 5)", Check.ARGUMENT, x, () -> x.about(4, 5));
         Check.refused("about(4, -1)", Check.ARGUMENT, x, () -> x.about(4, -1));
         Check.refused("about(5, 5)", Check.INDEX, x, () -> x.about(5, 5));
+        x.drop(1, 2);
+        Check.due("about(5, 0)", 1, x.about(5, 0));
+        Check.due("about(5, 1)", 3, x.about(5, 1));
+        Check.due("about(5, 2), a drop", NONE, x.about(5, 2));
+        Check.due("about(5, 3)", 1, x.about(5, 3));
     }
 
     private static void promise7AboutMerges() {
@@ -306,5 +312,9 @@ public final class DecksTest {
         Check.due("rule(0, 0, 38, 38)", 0, x.rule(0, 0, 38, 38));
         Check.due("blocks(39)", 1, x.blocks(39));
         Check.due("blocks(38)", 0, x.blocks(38));
+        Check.due("rule(0, 0, 1, 999)", 1, x.rule(0, 0, 1, 999));
+        Check.due("tighten(1, 1, 37), the version 38", 1, x.tighten(1, 1, 37));
+        Check.due("rule(2, 0, 1, 999)", 2, x.rule(2, 0, 1, 999));
+        Check.due("shown(0)", NONE, x.shown(0));
     }
 }

@@ -95,6 +95,9 @@ public final class MergesTest {
         Slidewarden x = twoSlides();
         x.drop(0, 0);
         Check.due("dropped, unchanged there", 0, x.clashes(0, 1));
+        x.set(1, 1, 0, 5);
+        Check.due("the slide behind it changed", 0, x.clashes(0, 1));
+        x.set(1, 1, 0, 0);
         x.set(1, 0, 0, 11);
         x.set(1, 0, 1, 21);
         x.set(1, 0, 3, 1);

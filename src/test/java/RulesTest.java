@@ -11,6 +11,8 @@ public final class RulesTest {
         promise17Blocks();
         promise18Warnings();
         promise19FirstBlock();
+        fullDecks();
+        firstRuleWarns();
         Check.end("RulesTest");
     }
 
@@ -205,5 +207,31 @@ public final class RulesTest {
         Check.due("firstBlock(3)", NONE, x.firstBlock(3));
         Check.refused("firstBlock(7)", Check.INDEX, x, () -> x.firstBlock(7));
         Check.refused("firstBlock(-1)", Check.INDEX, x, () -> x.firstBlock(-1));
+    }
+
+    /** A full deck, and the same one without its last slide, the only one with a value. */
+    private static void fullDecks() {
+        Slidewarden x = new Slidewarden();
+        for (int place = 0; place < 8; place++) {
+            x.add(0, place);
+        }
+        x.set(0, 7, 3, 9);
+        x.rule(0, 3, 1, 8);
+        x.rule(2, 3, 1, 8);
+        Check.due("blocks(9)", 1, x.blocks(9));
+        Check.due("warnings(9)", 1, x.warnings(9));
+        Check.due("firstBlock(9)", 7, x.firstBlock(9));
+        Check.due("firstBlock(8), nothing blocks", NONE, x.firstBlock(8));
+        x.drop(0, 7);
+        Check.due("blocks(10)", 0, x.blocks(10));
+        Check.due("warnings(10)", 0, x.warnings(10));
+        Check.due("firstBlock(10)", NONE, x.firstBlock(10));
+    }
+
+    private static void firstRuleWarns() {
+        Slidewarden x = threeSlides();
+        x.rule(2, 1, 1, 69);
+        Check.due("the rule 0 warns", 1, x.warnings(6));
+        Check.due("and does not block", 0, x.blocks(6));
     }
 }

@@ -2,8 +2,11 @@ import java.util.Arrays;
 
 /** All calls in long mixes, the same ones at every run, each answer as the Model gives it. */
 public final class ModelTest {
-    private static final int RUNS = 1200;
+    private static final int RUNS = 3000;
+    /** What later calls answer is free, the document says. */
     private static final int CALLS = 512;
+    /** A full deck's slides and objects. */
+    private static final int MOST_AT_ONCE = 9 + 8 * 4;
 
     /** Which calls a mix makes, by their numbers in call(..); those that stand more often come more often. */
     private static final int[][] MIXES = {
@@ -15,6 +18,7 @@ public final class ModelTest {
 
     private long seed;
     private int few;
+    private int calls;
     private Slidewarden x;
     private Model model;
 
@@ -29,11 +33,12 @@ public final class ModelTest {
     private void run(int run) {
         seed = run;
         few = 2 + run % 3;
+        calls = 0;
         x = new Slidewarden();
         model = new Model();
         int[] mix = MIXES[run % MIXES.length];
         prepare(run);
-        for (int call = 0; call < CALLS - 40; call++) {
+        while (calls + MOST_AT_ONCE <= CALLS) {
             int[] a = {near(6), near(6), near(20), near(4), near(3) - 1, near(40)};
             call("run " + run + ", ", mix[below(mix.length)], a);
         }
@@ -98,21 +103,35 @@ public final class ModelTest {
         }
     }
 
+    /** Its slides by place, and their objects, as far as the model has them. */
     private void allOfAVersion(String label, int version) {
-        for (int at = 0; at < 8; at++) {
+        int size = version >= 0 && version <= newest() ? model.about(version, 3) : 0;
+        for (int at = 0; at <= size; at++) {
             int place = at;
             same(label + "slideAt", () -> x.slideAt(version, place), () -> model.slideAt(version, place),
                     version, place);
         }
-        for (int cell = 0; cell < 20 * 4; cell++) {
-            int slide = cell / 4;
+        for (int cell = 0; cell < size * 4; cell++) {
+            int slide = model.slideAt(version, cell / 4);
             int object = cell % 4;
             same(label + "value", () -> x.value(version, slide, object),
                     () -> model.value(version, slide, object), version, slide, object);
         }
     }
 
-    private static void same(String call, Check.Call made, Check.Call due, int... told) {
+    /** The greatest version: always the head of a branch. */
+    private int newest() {
+        int newest = 0;
+        for (int branch = 0; branch < 6; branch++) {
+            int asked = branch;
+            String head = Check.outcome(() -> model.head(asked));
+            newest = Math.max(newest, head.contains("Exception") ? 0 : Integer.parseInt(head));
+        }
+        return newest;
+    }
+
+    private void same(String call, Check.Call made, Check.Call due, int... told) {
+        calls++;
         Check.due(call + Arrays.toString(told), Check.outcome(due), Check.outcome(made));
     }
 
